@@ -688,6 +688,13 @@ public final class PromisesTest {
         C.due("two(-1, 0, 5)", x.two(-1, 0, 5), -1);
         C.due("two(0, 1, -1)", x.two(0, 1, -1), -4);
         C.due("two(0, 1, 100)", x.two(0, 1, 100), -6);
+        // The other breaks the WHEEL, so that his GATE is mended on DAY 2 and has WEAR 9 on DAY 8, not 11.
+        C.due("the other breaks", told("p4;p3;tw30;tg41;b11;").two(0, 1, 8), 1);
+        C.due("it is so on DAY 7 anyway", told("p4;p3;tw30;tg41;b11;").two(0, 1, 7), 0);
+        // The first breaks the other's WHEEL, so that his own is mended on DAY 2 and has WEAR 7 on DAY 5, not 10.
+        C.due("the first breaks", told("p2;p2;tw11;tw00;b01;").two(0, 1, 5), 10);
+        C.due("the other of two", told("p2;p2;tw11;tw00;b01;").two(1, 0, 5), 1);
+        C.due("both break", told("p8;p7;tg71;tg60;tc10;tg61;b01;b13;").two(0, 1, 8), 11);
         MendAnothersBreaking y = told("p0;p9;p9;tt90;tt90;tt91;b20;");
         for (int n = 0; n < 4; n++) {
             C.due("two(0, 1, " + n + ")", y.two(0, 1, n), 0);
