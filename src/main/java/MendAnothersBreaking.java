@@ -17,6 +17,7 @@ public final class MendAnothersBreaking {
     private static final int MOST_LANES = 20;
     private static final int DAYS_OF_LOTS = 10;
     private static final int MOST_STORM_DAYS = 7;
+    private static final int PAIRS = 4;
     private static final int LEAST_ODDS = 2;
     private static final int MOST_ODDS = 20;
 
@@ -46,6 +47,7 @@ public final class MendAnothersBreaking {
     private static final int SENSE_FAULT = -2000;
 
     private final State now = new State();
+    /** Where answers are thought out: made once, as what a run makes is counted. */
     private final State mind = new State();
     private final State kept = new State();
     private boolean hasKept = false;
@@ -54,7 +56,8 @@ public final class MendAnothersBreaking {
     private int rowSize = 0;
     private final int[] refusals = new int[MOST_REFUSAL + 1];
     private final Pairing pairing = new Pairing();
-    private final int[] wishes = new int[8];
+    private final int[] firstHas = new int[PAIRS];
+    private final int[] otherHas = new int[PAIRS];
 
     public MendAnothersBreaking() {
     }
@@ -488,7 +491,10 @@ public final class MendAnothersBreaking {
             seen |= 1 << at;
             at = now.breakerOfLeast(at);
         }
-        return what == 0 ? Integer.bitCount(seen) : at == NONE ? 0 : 1;
+        if (what == 0) {
+            return Integer.bitCount(seen);
+        }
+        return at == NONE ? 0 : 1;
     }
 
     public int arranged(int what) {
@@ -544,19 +550,19 @@ public final class MendAnothersBreaking {
         if (wrong != 0) {
             return refuse(wrong);
         }
-        for (int pair = 0; pair < 4; pair++) {
-            think(a, b, n, pair);
+        for (int pair = 0; pair < PAIRS; pair++) {
+            thinkOut(a, b, n, pair);
         }
-        for (int pair = 0; pair < 4; pair++) {
-            if (wishes[2 * pair] >= wishes[2 * (pair ^ 2)] && wishes[2 * pair + 1] >= wishes[2 * (pair ^ 1) + 1]) {
+        for (int pair = 0; pair < PAIRS; pair++) {
+            if (firstHas[pair] >= firstHas[pair ^ 2] && otherHas[pair] >= otherHas[pair ^ 1]) {
                 return 10 * (pair / 2) + pair % 2;
             }
         }
         return NONE;
     }
 
-    /** Writes down what each of two has WHOLE by a pair (bit 1 the first's, bit 0 the other's). */
-    private void think(int a, int b, int n, int pair) {
+    /** Writes down what each of two has WHOLE by a pair (bit 1 the first's choice, bit 0 the other's). */
+    private void thinkOut(int a, int b, int n, int pair) {
         mind.become(now);
         if ((pair & 2) != 0) {
             mind.breakLeastOf(b, a);
@@ -565,8 +571,8 @@ public final class MendAnothersBreaking {
             mind.breakLeastOf(a, b);
         }
         mind.pass(n, 1, NONE);
-        wishes[2 * pair] = mind.wholeOf(a);
-        wishes[2 * pair + 1] = mind.wholeOf(b);
+        firstHas[pair] = mind.wholeOf(a);
+        otherHas[pair] = mind.wholeOf(b);
     }
 
     // ---- odds, fractions ----
@@ -786,7 +792,10 @@ public final class MendAnothersBreaking {
 
     /** The REFUSAL of a number that is not from least to most; 0 if it is. */
     private static int outside(int v, int least, int most) {
-        return v < least ? BELOW : v > most ? ROOM : 0;
+        if (v < least) {
+            return BELOW;
+        }
+        return v > most ? ROOM : 0;
     }
 
     /** PEOPLE, THINGS and DAY: what is so now, what is in mind, or what THE IMAGE keeps. */

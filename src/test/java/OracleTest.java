@@ -19,7 +19,7 @@ public final class OracleTest {
     }
 
     public static void main(String[] args) {
-        int runs = args.length > 1 ? Integer.parseInt(args[1]) : 400;
+        int runs = args.length > 1 ? Integer.parseInt(args[1]) : 1500;
         for (int run = 0; run < runs; run++) {
             C.about("run " + run);
             run();
