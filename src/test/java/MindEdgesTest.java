@@ -81,6 +81,9 @@ public final class MindEdgesTest {
         C.due("by the last", y.brokenThen(0, 99), 5);
         C.due("WHOLE", y.brokenThen(1, 0), -9);
         C.due("by NOBODY", y.brokenThen(1, 1), -8);
+        C.due("wears(1, 5)", y.wears(1, 5), 9);
+        C.due("WEAR 9 on DAY 4", y.brokenThen(1, 4), -9);
+        C.due("by NOBODY on DAY 5", y.brokenThen(1, 5), -8);
     }
 
     private static void beyondTheLastDay() {
@@ -217,6 +220,16 @@ public final class MindEdgesTest {
         MendAnothersBreaking all = told("p9;p9;tt90;tt90;b10;b01;");
         C.due("all at once", all.together(-1), 2);
         C.due("all at once", all.together(1), 1);
+        C.due("ahead of it one that nobody mends", told("p9;p0;tt90;tt90;b11;").together(1), 0);
+        x.image();
+        C.due("days(2)", x.days(2), 9);
+        C.due("none any more", x.together(-1), 0);
+        MendAnothersBreaking fewer = told("p9;p9;tt90;b00;");
+        C.due("image()", fewer.image(), 0);
+        C.due("more THINGS", Lanes.tell(fewer, "tt90;tt90;b01;b12;"), 4);
+        C.due("all at once", fewer.together(-1), 2);
+        C.due("on()", fewer.on(), 0);
+        C.due("one again", fewer.together(-1), 1);
         C.due("of no THINGS", told("p9;").together(-1), 0);
         C.due("of no THINGS", told("p9;").together(0), -1);
     }
@@ -254,6 +267,10 @@ public final class MindEdgesTest {
         C.due("breaker(-1)", x.breaker(-1), -1);
         MendAnothersBreaking last = told("p0;p0;p0;p0;p9;p9;tt90;tt90;b40;");
         C.due("5 mends THING 0 first, 4 is free at once", last.breaker(1), 0);
+        MendAnothersBreaking alike = told("p9;p9;p0;tt90;tt90;tt90;b20;b21;");
+        C.due("by either behind 2", alike.breaker(2), 0);
+        C.due("all is mended in thought", alike.wholeThen(9), 7);
+        C.due("and is as it was", alike.breaker(2), 0);
     }
 
     private static void bestSays() {
@@ -276,6 +293,9 @@ public final class MindEdgesTest {
         C.due("WHOLE from DAY 1", worn.bestSays(1), 0);
         C.due("till DAY 10", worn.bestSays(10), 0);
         C.due("not on DAY 11", worn.bestSays(11), -9);
+        C.due("one alone", told("p9;tc00;n0;").bestSays(9), -9);
+        C.due("a TOOL is WHOLE else, too", told("p0;p0;tc90;tl00;n0;w15;").bestSays(4), -9);
+        C.due("a TOOL breaks else, too", told("p0;p0;tc00;tl00;n0;w15;").bestSays(5), 0);
     }
 
     private static void confessions() {
@@ -323,6 +343,10 @@ public final class MindEdgesTest {
         C.due("all are alike", told("p9;p9;p9;tt00;").missed(9), 0);
         C.due("another mends it as well", told("p9;p9;p9;tt00;b20;").missed(1), 0);
         C.due("no THINGS", told("p9;").missed(99), 0);
+        C.due("all nine are WHOLE without anybody", told(NINE_CUPS).missed(99), 0);
+        MendAnothersBreaking y = told("p9;p5;p0;tl92;tc90;b20;b01;");
+        C.due("the TOOL without 0, the CUP without 1", y.missed(10), 0);
+        C.due("the TOOL breaks on DAY 11", y.missed(11), 1);
         C.due("he nowhere mends, so that more are WHOLE", told("p9;p0;p9;tc90;b20;").missed(1), 0);
     }
 

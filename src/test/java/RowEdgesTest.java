@@ -303,6 +303,8 @@ public final class RowEdgesTest {
             C.due("wears(0, 0)", x.wears(0, 0), 1);
             C.due("from DAY 1", x.lots(20, z, 0), below(drawn, 0, 20, 2));
         }
+        MendAnothersBreaking before = told("p9;p9;tc90;b10;d01;");
+        C.due("MENDED earlier is none of it", before.lots(20, 7, 1), below(draws(7, 3, 20), 0, 20, 2));
         MendAnothersBreaking nine = told("p9;p9;tc90;tc90;tc90;tc90;tc90;tc90;tc90;tc90;tc90;");
         for (int z : SEEDS) {
             C.due("all nine are mended in 10 DAYS", nine.lots(20, z, 0), 180);
